@@ -9,6 +9,7 @@ public final class ModelTest {
     private static final String[] NAMES = {"f", "g", "read.me", "~", "f"};
     private static final String[] LINES = {"a\n", "b\n", "c\n", "\n", "a", "dd\n"};
     private static final int CALLS = 512;
+    private static final int REPOSITORIES = 3;
 
     private final Random random;
     private final long seed;
@@ -30,30 +31,38 @@ public final class ModelTest {
     }
 
     private void run() {
+        lay(Use.bytes("f"));
+        ask("add", 0, 0);
+        lay(Use.bytes("a\nb\nc\n"));
+        ask("record", 0, 0);
+        for (int repository = 1; repository < REPOSITORIES; repository++) {
+            ask("pull", repository, 0, -1);
+        }
         for (int turn = 0; turn < 500 && calls < CALLS; turn++) {
             act(random.nextInt(100));
             if (random.nextInt(6) == 0) {
-                look(random.nextInt(3));
+                look(random.nextInt(REPOSITORIES));
             }
         }
     }
 
     private void act(int which) {
-        int repository = random.nextInt(30) == 0 ? random.nextInt(11) - 2 : random.nextInt(3);
-        if (which < 12) {
+        int repository = random.nextInt(30) == 0 ? random.nextInt(11) - 2 : random.nextInt(REPOSITORIES);
+        if (which < 3) {
             lay(Use.bytes(name()));
             ask("add", repository, random.nextInt(3));
-        } else if (which < 42) {
-            layEdited(repository);
-            ask("record", repository, fileNumber(repository));
-        } else if (which < 50) {
-            lay(Use.bytes(random.nextInt(6) == 0 ? "" : name()));
+        } else if (which < 40) {
+            int k = fileNumber(repository);
+            layEdited(repository, k);
+            ask("record", repository, k);
+        } else if (which < 46) {
+            lay(Use.bytes(random.nextInt(20) == 0 ? "" : name()));
             ask("call", repository, fileNumber(repository));
-        } else if (which < 65) {
-            ask("pull", repository, random.nextInt(3), random.nextInt(2) == 0 ? -1 : patchNumber());
-        } else if (which < 73) {
+        } else if (which < 56) {
+            ask("pull", repository, random.nextInt(REPOSITORIES), random.nextInt(2) == 0 ? -1 : patchNumber());
+        } else if (which < 66) {
             ask("drop", repository, patchNumber());
-        } else if (which < 94) {
+        } else if (which < 96) {
             readSomething(repository);
         } else {
             askAtRandom();
@@ -77,14 +86,16 @@ public final class ModelTest {
         return kind == 1 ? " " : kind == 2 ? "\u007f" : kind == 3 ? "a\n" : NAMES[random.nextInt(NAMES.length)];
     }
 
-    private void layEdited(int repository) {
+    private void layEdited(int repository, int k) {
         List<String> lines = new ArrayList<>();
         if (repository >= 0 && repository < 8) {
-            Set<Model.Patch> set = model.sets.get(repository);
-            for (Model.Change file : Model.filesThere(set)) {
-                if (random.nextBoolean()) {
-                    Model.lines(set, file).forEach(l -> lines.add(new String(l.bytes)));
+            int total = store.about(repository, 1) > k && k >= 0 ? store.file(repository, k, 0) : 0;
+            for (int j = 0; j < total; j++) {
+                StringBuilder line = new StringBuilder();
+                for (int i = 0; i < store.line(repository, k, j, -1); i++) {
+                    line.append((char) store.line(repository, k, j, i));
                 }
+                lines.add(line.toString());
             }
         }
         int edits = random.nextInt(4);
@@ -154,73 +165,98 @@ public final class ModelTest {
             out.on(hashes);
             on.sort(Model.BY_HASH);
         }
-        List<int[]> own = new ArrayList<>();
-        int changes = 1 + random.nextInt(5);
+        List<Target> targets = new ArrayList<>();
+        for (int k = 0; k < on.size(); k++) {
+            for (Model.Change change : on.get(k).changes) {
+                addTargets(targets, k, change.number, change.kind, change.lines.size(), change.file);
+            }
+        }
+        int changes = 1 + random.nextInt(6);
         for (int i = 0; i < changes; i++) {
-            putChange(out, on, own);
+            putChange(out, targets, i);
         }
         return random.nextInt(25) == 0 ? out.bytes(changes + random.nextInt(3) - 1) : out.bytes();
     }
 
-    /** own: kind and number of LINES of the CHANGES so far. */
-    private void putChange(PatchBytes out, List<Model.Patch> on, List<int[]> own) {
-        int kind = own.isEmpty() && on.isEmpty() ? 0 : random.nextInt(5);
+    /** A CHANGE, or a LINE of it, that a REF can name. */
+    private static final class Target {
+        final int kind;
+        final int k;
+        final int change;
+        final int line;
+        final Object file;
+
+        Target(int kind, int k, int change, int line, Object file) {
+            this.kind = kind;
+            this.k = k;
+            this.change = change;
+            this.line = line;
+            this.file = file;
+        }
+
+        int[] ref() {
+            return PatchBytes.line(k, change, line);
+        }
+    }
+
+    private void addTargets(List<Target> targets, int k, int change, int kind, int lines, Object file) {
+        for (int line = 0; line < Math.max(lines, 1); line++) {
+            targets.add(new Target(kind, k, change, line, file));
+        }
+    }
+
+    private void putChange(PatchBytes out, List<Target> targets, int number) {
+        int kind = targets.isEmpty() || random.nextInt(12) == 0 ? 0 : 1 + random.nextInt(4);
+        Target add = target(targets, 0, null);
+        Object file = kind == 0 ? new Object() : add.file;
         int lines = 0;
-        int[] file = ref(on, own, 0);
         switch (kind) {
             case 0:
                 out.add(random.nextInt(2), name().replace(" ", "x"));
                 break;
             case 1:
-                int[] refs = new int[2 * (random.nextInt(12) == 0 ? 0 : 1 + random.nextInt(2))];
+                int[] refs = new int[2 * (random.nextInt(25) == 0 ? 0 : 1 + random.nextInt(2))];
                 for (int i = 0; i < refs.length; i += 2) {
-                    int[] naming = ref(on, own, random.nextInt(2));
-                    refs[i] = naming[0];
-                    refs[i + 1] = naming[1];
+                    Target naming = target(targets, random.nextInt(2), file);
+                    refs[i] = naming.k;
+                    refs[i + 1] = naming.change;
                 }
-                out.call(file[0], file[1], random.nextInt(4) == 0 ? "" : name(), refs);
+                out.call(add.k, add.change, random.nextInt(8) == 0 ? "" : name(), refs);
                 break;
             case 2:
-                lines = random.nextInt(30) == 0 ? 0 : 1 + random.nextInt(3);
-                String[] texts = new String[lines];
-                for (int i = 0; i < lines; i++) {
-                    texts[i] = random.nextInt(60) == 0 ? "" : random.nextInt(60) == 0 ? "\n\n"
-                        : random.nextInt(60) == 0 ? "y".repeat(499 + random.nextInt(3))
-                        : LINES[random.nextInt(LINES.length)];
-                }
-                int[] up = random.nextBoolean() ? null : ref(on, own, 2);
-                int[] down = random.nextBoolean() ? null : ref(on, own, 2);
-                out.insert(file[0], file[1], up, down, texts);
+                String[] texts = new String[random.nextInt(40) == 0 ? 0 : 1 + random.nextInt(3)];
+                Arrays.setAll(texts, i -> lineText());
+                lines = texts.length;
+                int[] up = random.nextInt(3) == 0 ? null : target(targets, 2, file).ref();
+                int[] down = random.nextInt(3) == 0 ? null : target(targets, 2, file).ref();
+                out.insert(add.k, add.change, up, down, texts);
                 break;
             case 3:
-                int[] line = ref(on, own, 2);
+                int[] line = target(targets, 2, null).ref();
                 out.delete(line[0], line[1], line[2]);
                 break;
             default:
-                out.order(ref(on, own, 2), ref(on, own, 2));
+                Target one = target(targets, 2, null);
+                out.order(one.ref(), target(targets, 2, one.file).ref());
         }
-        own.add(new int[] {kind, lines});
+        addTargets(targets, PatchBytes.OWN, number, kind, lines, file);
     }
 
-    private int[] ref(List<Model.Patch> on, List<int[]> own, int kind) {
-        List<int[]> fit = new ArrayList<>();
-        for (int k = 0; k < on.size(); k++) {
-            for (Model.Change change : on.get(k).changes) {
-                for (int line = 0; line < Math.max(change.lines.size(), 1) && change.kind == kind; line++) {
-                    fit.add(new int[] {k, change.number, line});
-                }
-            }
+    private String lineText() {
+        int kind = random.nextInt(200);
+        return kind == 0 ? "" : kind == 1 ? "\n\n" : kind == 2 ? "y".repeat(499 + random.nextInt(3))
+            : LINES[random.nextInt(LINES.length)];
+    }
+
+    /** One of that kind and of that FILE, mostly. */
+    private Target target(List<Target> targets, int kind, Object file) {
+        List<Target> fit = new ArrayList<>(targets);
+        fit.removeIf(t -> t.kind != kind || file != null && t.file != file);
+        if (random.nextInt(80) == 0) {
+            return new Target(kind, random.nextInt(4) - 1, random.nextInt(4), random.nextInt(3), file);
         }
-        for (int i = 0; i < own.size(); i++) {
-            for (int line = 0; line < Math.max(own.get(i)[1], 1) && own.get(i)[0] == kind; line++) {
-                fit.add(new int[] {PatchBytes.OWN, i, line});
-            }
-        }
-        if (fit.isEmpty() || random.nextInt(40) == 0) {
-            int k = random.nextInt(on.size() + 2);
-            return new int[] {k > on.size() ? PatchBytes.OWN : k, random.nextInt(own.size() + 2), random.nextInt(3)};
-        }
-        return fit.get(random.nextInt(fit.size()));
+        List<Target> from = fit.isEmpty() ? targets : fit;
+        return from.isEmpty() ? new Target(kind, PatchBytes.OWN, 0, 0, file) : from.get(random.nextInt(from.size()));
     }
 
     private void askAtRandom() {
@@ -270,20 +306,21 @@ public final class ModelTest {
         for (int what = 0; what < 3; what++) {
             ask("has", repository, p, what);
         }
-        int files = Model.filesThere(model.sets.get(repository)).size();
-        int k = random.nextInt(files + 1);
+        int files = store.about(repository, 1);
+        int k = random.nextInt(8) == 0 ? files : random.nextInt(Math.max(files, 1));
         for (int what = 0; what < 7; what++) {
             ask("file", repository, k, what);
         }
-        for (int j = 0; j < 3; j++) {
+        for (int j = 0; j < 2; j++) {
             ask("name", repository, k, j, random.nextInt(2) - 1);
         }
-        int first = random.nextInt(3);
-        for (int j = first; j < first + 6; j++) {
-            for (int i = -4; i < 2; i++) {
+        int lines = k < files ? store.file(repository, k, 0) : 0;
+        for (int j = 0; j <= lines; j++) {
+            for (int i = -4; i < -1; i++) {
                 ask("line", repository, k, j, i);
             }
         }
+        ask("line", repository, k, random.nextInt(lines + 1), random.nextInt(7) - 5);
     }
 
     private void ask(String call, int... args) {
