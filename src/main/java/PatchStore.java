@@ -266,6 +266,7 @@ public final class PatchStore {
         if (i < -1 || i >= length) {
             throw new IndexOutOfBoundsException();
         }
+        // The length stands in front of the NAME, which is where -1 leads.
         return stock.bytes[at + 1 + i];
     }
 
@@ -1292,9 +1293,7 @@ public final class PatchStore {
             version = repository.version;
             loadedFile = file;
             gatherLines();
-            Arrays.fill(reach, 0, total * LINE_WORDS, 0L);
-            Arrays.fill(deleters, 0, total * PATCH_WORDS, 0L);
-            Arrays.fill(gone, 0, total, 0);
+            clearRows();
             layInsertEdges();
             for (int patch = 0; patch < stock.patches; patch++) {
                 if (repository.holds(patch)) {
@@ -1332,6 +1331,19 @@ public final class PatchStore {
                     slots[line] = total;
                     total++;
                 }
+            }
+        }
+
+        /** Clears no more than the GRAPH needs: most are small. */
+        private void clearRows() {
+            for (int i = 0; i < total * LINE_WORDS; i++) {
+                reach[i] = 0;
+            }
+            for (int i = 0; i < total * PATCH_WORDS; i++) {
+                deleters[i] = 0;
+            }
+            for (int slot = 0; slot < total; slot++) {
+                gone[slot] = 0;
             }
         }
 

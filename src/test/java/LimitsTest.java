@@ -187,6 +187,13 @@ public final class LimitsTest {
         Check.due("THE TAPE stays", store.count(0), 1);
         Check.due("bytes", store.file(0, 0, 1), 65520);
         Check.due("the last LINE", store.line(0, 0, 131, -1), 20);
+        for (int more = 0; more < 2; more++) {
+            Use.add(store, 1 + more, more, "g");
+            int cut = 65536 + more - 45 - 2 * 131 - 130 * 500;
+            Use.record(store, 1 + more, 0, text.substring(0, 65000) + "z".repeat(cut));
+        }
+        Check.due("65,536 BYTES", store.show(3), 65536);
+        Check.unsupported("65,537 BYTES", () -> store.show(5));
     }
 
     /** As many CHANGES as THE TAPE holds: each DELETE has 7 bytes. */

@@ -10,6 +10,7 @@ public final class NamingTest {
         namingsInConflict();
         sameNameInOneFile();
         namesInConflict();
+        namesLikeEachOther();
         filesByKey();
         manyNamings();
         Check.finish();
@@ -157,6 +158,29 @@ public final class NamingTest {
         Check.illegalArgument("about", () -> store.about(0, -1));
         Check.noSuchElement("about", () -> store.about(8, 9));
         Check.noSuchElement("about", () -> store.about(-1, 0));
+    }
+
+    /** NAMES that are like one another to a sum of their bytes with weights of 31. */
+    private static void namesLikeEachOther() {
+        PatchStore store = new PatchStore();
+        Use.read(store, 0, new PatchBytes().add(0, "ab").add(0, "bC").add(0, "c$").bytes());
+        Check.due("different NAMES", store.about(0, 3), 0);
+        Use.add(store, 0, 7, "ab");
+        Check.due("one NAME twice", store.about(0, 3), 2);
+        Use.add(store, 0, 8, "c$");
+        Check.due("and another", store.about(0, 3), 4);
+        Use.add(store, 0, 9, "bCx");
+        Check.due("a longer one", store.about(0, 3), 4);
+        PatchBytes many = new PatchBytes();
+        for (int i = 0; i < 150; i++) {
+            many.add(0, "n" + i);
+        }
+        Use.read(store, 1, many.bytes());
+        Check.due("150 NAMES", store.about(1, 3), 0);
+        for (int i = 149; i >= 130; i--) {
+            Use.add(store, 1, 5, "n" + i);
+        }
+        Check.due("20 of them twice", store.about(1, 3), 40);
     }
 
     private static void filesByKey() {

@@ -8,7 +8,6 @@ final class PatchBytes {
     private final ByteArrayOutputStream changes = new ByteArrayOutputStream();
     private byte[][] dependencies = new byte[0][];
     private int total = 0;
-    private boolean sorted = true;
 
     /** The DEPENDENCIES, which are sorted by HASH: so that place(hash) tells the k of one. */
     PatchBytes on(byte[]... hashes) {
@@ -19,7 +18,6 @@ final class PatchBytes {
 
     PatchBytes onAsGiven(byte[]... hashes) {
         dependencies = hashes.clone();
-        sorted = false;
         return this;
     }
 
@@ -29,7 +27,7 @@ final class PatchBytes {
                 return k;
             }
         }
-        throw new IllegalArgumentException("no such dependency, sorted " + sorted);
+        throw new IllegalArgumentException("no such dependency");
     }
 
     private PatchBytes put(int value) {

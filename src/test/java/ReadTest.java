@@ -140,6 +140,7 @@ public final class ReadTest {
         fault("an empty LINE", 1, new PatchBytes().add(0, "f").insert(OWN, 0, null, null, "a", "").bytes());
         fault("501 bytes", 1, new PatchBytes().add(0, "f").insert(OWN, 0, null, null, "n".repeat(501)).bytes());
         fault("LF within", 1, new PatchBytes().add(0, "f").insert(OWN, 0, null, null, "\n\n").bytes());
+        fault("a length of 10", 0, new PatchBytes().add(0, "f").insert(OWN, 0, null, null, "123456789\n").bytes());
         fault("LF within", 1, new PatchBytes().add(0, "f").insert(OWN, 0, null, null, "a\nb").bytes());
         fault("without LF anywhere", 0, new PatchBytes().add(0, "f").insert(OWN, 0, null, null, "a", "b").bytes());
         fault("UP 2", 1, new PatchBytes().add(0, "f").change(2).ref(OWN, 0).more(2, 0, 0, 1, 0, 1, 'a').bytes());
@@ -200,6 +201,8 @@ public final class ReadTest {
         fault("a CALL is no ADD", 3, store, new PatchBytes().on(zero, two).call(t, 0, "x", z, 0).bytes());
         fault("a CALL is a NAMING", 0, store, new PatchBytes().on(zero, two).call(z, 0, "x", t, 0).bytes());
         fault("two NAMINGS", 0, store, new PatchBytes().on(zero, two).call(z, 0, "x", t, 0, z, 0).bytes());
+        PatchBytes thirdAgain = new PatchBytes().on(zero, two).call(z, 0, "x", t, 0, z, 0, z, 0);
+        fault("the third is the second", 3, store, thirdAgain.bytes());
         PatchBytes ofNone = new PatchBytes().on(zero, three);
         ofNone.call(ofNone.place(zero), 0, "x", ofNone.place(three), 0);
         fault("a CALL without a NAME is none", 3, store, ofNone.bytes());

@@ -15,6 +15,7 @@ public final class RecordTest {
         notStranded();
         sameInsertAgain();
         withoutLf();
+        linesLikeEachOther();
         refuses();
         linesOfText();
         fileOfLaterChange();
@@ -241,6 +242,17 @@ public final class RecordTest {
         store.pull(0, 1, -1);
         Check.due("in the midst of a TEXT", store.file(0, 0, 1), 5);
         Check.due("UNSURE", store.file(0, 0, 2), 1);
+    }
+
+    /** LINES that are like one another to a sum of their bytes with weights of 31. */
+    private static void linesLikeEachOther() {
+        PatchStore store = withText("ab\n");
+        Check.due("other bytes", Use.record(store, 0, 0, "bC\n"), 2);
+        Check.due("TEXT", Use.text(store, 0, 0), "bC\n");
+        Check.due("a zero in front", Use.record(store, 0, 0, "\u0000bC\n"), 3);
+        Check.due("TEXT", Use.text(store, 0, 0), "\u0000bC\n");
+        Check.due("both", Use.record(store, 0, 0, "bC\n\u0000bC\nab\n"), 4);
+        Check.due("one is kept", store.line(0, 0, 1, -2), 3);
     }
 
     private static void refuses() {
