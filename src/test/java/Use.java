@@ -85,6 +85,16 @@ final class Use {
         return name.toString();
     }
 
+    /** The number, among the FILES that are THERE, of the one that this PATCH ADDS. */
+    static int fileOf(PatchStore store, int repository, int p) {
+        for (int k = 0; k < store.about(repository, 1); k++) {
+            if (store.file(repository, k, 6) == p) {
+                return k;
+            }
+        }
+        throw new IllegalArgumentException("no such file");
+    }
+
     static byte[] hash(PatchStore store, int p) {
         byte[] hash = new byte[32];
         for (int i = 0; i < 32; i++) {
