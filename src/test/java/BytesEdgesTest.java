@@ -24,6 +24,7 @@ public final class BytesEdgesTest {
         refsOfFiles();
         refsOfNamings();
         refsOfLines();
+        changesBeyond();
         orders();
         ownRefs();
         dependenciesInSet();
@@ -443,6 +444,39 @@ public final class BytesEdgesTest {
             due("UP of own CHANGE " + change, fault,
                 kinds().insert(OWN, 0, PatchBytes.line(OWN, change, 0), null, "x").bytes());
         }
+    }
+
+    /**
+     * "2 bytes: a CHANGE of that, from 0": one behind the last is none, though the next PATCH of THE STOCK, or what
+     * is read itself, may have a CHANGE there that would do.
+     */
+    private static void changesBeyond() {
+        for (int p = 1; p <= 2; p++) {
+            PatchStore store = Edge.withProbe();
+            Use.read(store, 0, new PatchBytes().add(0, "f").bytes());
+            byte[] f = Use.hash(store, 1);
+            for (int i = 0; i < p; i++) {
+                Use.read(store, 0, new PatchBytes().on(f).insert(0, 0, null, null, "x" + i).bytes());
+            }
+            byte[] lines = Use.hash(store, 2);
+            PatchBytes patch = new PatchBytes().on(f, lines);
+            int l = patch.place(lines);
+            patch.insert(patch.place(f), 0, PatchBytes.line(l, 0, 0), null, "y");
+            due("DELETE, then " + (p - 1) + " PATCHES", 3, store, patch.delete(l, 1, 0).bytes());
+        }
+        for (int p = 1; p <= 2; p++) {
+            PatchStore store = Edge.withProbe();
+            for (int i = 0; i < p; i++) {
+                Use.read(store, 0, new PatchBytes().add(i, "f").bytes());
+            }
+            PatchBytes patch = new PatchBytes().on(Use.hash(store, 1)).add(0, "own").call(0, 0, "x", 0, 0);
+            due("INSERT, then " + (p - 1) + " PATCHES", 3, store, patch.insert(0, 1, null, null, "x").bytes());
+        }
+        PatchStore store = Edge.withProbe();
+        Use.read(store, 0, new PatchBytes().add(0, "f").bytes());
+        byte[] f = Use.hash(store, 1);
+        Use.read(store, 0, new PatchBytes().on(f).call(0, 0, "g", 0, 0).bytes());
+        due("NAMING, then a PATCH", 3, store, new PatchBytes().on(f).call(0, 0, "h", 0, 1).bytes());
     }
 
     /** ORDER: "two LINES of one FILE, not the same". */

@@ -33,6 +33,7 @@ public final class CallEdgesTest {
         name();
         line();
         count();
+        otherCalls();
         Check.finish();
     }
 
@@ -636,5 +637,17 @@ public final class CallEdgesTest {
         for (int what : new int[] {-1, 5, 6, LOW, HIGH}) {
             Check.due("count(" + what + ")", store.count(what), -1);
         }
+    }
+
+    /** THE TAPE is taken by add, call, record and read alone; what only asks changes nothing. */
+    private static void otherCalls() {
+        PatchStore store = made();
+        Use.tape(store, "tape\n");
+        String before = Snapshot.of(store);
+        Check.due("asked twice", Snapshot.difference(before, Snapshot.of(store)), "");
+        Check.due("fault", store.fault(), 0);
+        Check.due("pull", store.pull(6, 0, -1), 4);
+        Check.due("drop", store.drop(6, 2), 3);
+        Edge.tapeIs("THE TAPE of other calls", store, Use.bytes("tape\n"));
     }
 }

@@ -11,6 +11,7 @@ public final class NamingTest {
         sameNameInOneFile();
         namesInConflict();
         namesLikeEachOther();
+        namesThatStartAlike();
         filesByKey();
         manyNamings();
         Check.finish();
@@ -181,6 +182,21 @@ public final class NamingTest {
             Use.add(store, 1, 5, "n" + i);
         }
         Check.due("20 of them twice", store.about(1, 3), 40);
+    }
+
+    private static void namesThatStartAlike() {
+        String longest = "The-quick-brown-fox-jumps-over-the-lazy-dog,0123456789;<=>?@[]{}|~".substring(0, 64);
+        PatchBytes starts = new PatchBytes();
+        for (int length = 64; length > 0; length -= 2) {
+            starts.add(0, longest.substring(0, length)).add(0, longest.substring(0, 65 - length));
+        }
+        PatchStore store = new PatchStore();
+        Use.read(store, 0, starts.bytes());
+        Check.due("64 NAMES, each the start of the next", store.about(0, 3), 0);
+        for (int length = 1; length <= 64; length++) {
+            Use.add(store, 0, length, longest.substring(0, length));
+            Check.due("as many twice", store.about(0, 3), 2 * length);
+        }
     }
 
     private static void filesByKey() {

@@ -15,6 +15,7 @@ public final class StockEdgesTest {
 
     public static void main(String[] args) {
         patches();
+        patchesInARow();
         files();
         filesInOnePatch();
         linesOfFile();
@@ -126,6 +127,25 @@ public final class StockEdgesTest {
             full("501 PATCHES", store, call == 0 ? 3 : 0);
         }
         full("501 PATCHES", withPatches(500), 0, 1, 2, 3);
+    }
+
+    /** A row of PATCHES, each on the one before it: LEANS, drop and pull with numbers of every size. */
+    private static void patchesInARow() {
+        PatchStore store = withPatches(500);
+        for (int p = 6; p < 500; p++) {
+            Check.due("LEAN on " + p, store.has(7, p, 1), 499 - p);
+            Check.due(p + " LEANS on", store.has(7, p, 2), p - 5);
+            Check.due("in SET 7", store.has(7, p, 0), 1);
+            Check.due("not in SET 0", store.has(0, p, 0), 0);
+            int patch = p;
+            Check.due("drop of " + p, Check.answer(() -> store.drop(7, patch)), p == 499 ? "494" : Edge.STATE);
+        }
+        Check.due("pull of the last that is left", store.pull(6, 7, 498), 494);
+        Check.due("pull of one in the midst", store.pull(5, 7, 300), 296);
+        for (int p = 498; p >= 6; p--) {
+            Check.due("drop of " + p, store.drop(7, p), p - 5);
+        }
+        Check.due("the others have theirs", store.about(6, 0) + store.about(5, 0), 494 + 296);
     }
 
     private static PatchStore withPatches(int total) {
@@ -264,9 +284,10 @@ public final class StockEdgesTest {
                 .insert(OWN, 1, null, null, some(Math.max(left, 1))).bytes());
             Edge.refused("read of one too many in two FILES", store, Edge.STATE, () -> store.read(0));
             if (left > 0) {
-                store.pull(7, 0, 0);
-                Check.due("as many as are left", Use.record(store, 7, 0, text(left)), 16);
+                store.pull(7, 0, 1);
+                Check.due("as many as are left", Use.record(store, 7, 0, text(left) + "a\n"), 16);
                 Check.due("LINES", store.count(2), 4000);
+                Check.due("in front of the other one", Use.text(store, 7, 0) + store.file(7, 0, 2), text(left) + "a\n0");
             }
             full("4,001 LINES", store, 2);
             open("no LINE more", store, 0, 1, 3);
