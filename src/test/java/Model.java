@@ -4,9 +4,10 @@ import java.util.ArrayList;
 import java.util.Arrays;
 import java.util.Collections;
 import java.util.Comparator;
+import java.util.HashMap;
 import java.util.HashSet;
-import java.util.LinkedHashSet;
 import java.util.List;
+import java.util.Map;
 import java.util.NoSuchElementException;
 import java.util.Set;
 import java.util.TreeSet;
@@ -27,10 +28,13 @@ final class Model {
         final List<Change> changes = new ArrayList<>();
 
         Set<Patch> leansOn() {
-            Set<Patch> found = new LinkedHashSet<>();
-            for (Patch dependency : dependencies) {
-                found.add(dependency);
-                found.addAll(dependency.leansOn());
+            Set<Patch> found = new HashSet<>();
+            List<Patch> open = new ArrayList<>(dependencies);
+            while (!open.isEmpty()) {
+                Patch patch = open.remove(open.size() - 1);
+                if (found.add(patch)) {
+                    open.addAll(patch.dependencies);
+                }
             }
             return found;
         }
@@ -330,6 +334,16 @@ final class Model {
         }
     }
 
+    /** The TEXT of a FILE, LINE by LINE. */
+    List<String> textLines(int repository, int k) {
+        Set<Patch> set = set(repository);
+        List<Line> text = new ArrayList<>();
+        text(set, fileAt(set, k), text);
+        List<String> lines = new ArrayList<>();
+        text.forEach(line -> lines.add(latin(line.bytes)));
+        return lines;
+    }
+
     // Terms.
 
     private Set<Patch> set(int repository) {
@@ -435,13 +449,13 @@ final class Model {
         return all;
     }
 
-    private static Set<Line> behind(Set<Patch> set, Line from) {
+    private static Set<Line> behind(Map<Line, List<Line>> edges, Line from) {
         Set<Line> found = new HashSet<>();
         List<Line> open = new ArrayList<>();
         open.add(from);
         while (!open.isEmpty()) {
             Line line = open.remove(open.size() - 1);
-            for (Line next : nexts(set, line)) {
+            for (Line next : edges.getOrDefault(line, List.of())) {
                 if (found.add(next)) {
                     open.add(next);
                 }
@@ -450,26 +464,29 @@ final class Model {
         return found;
     }
 
-    private static List<Line> nexts(Set<Patch> set, Line line) {
-        List<Line> next = new ArrayList<>();
-        for (Patch patch : set) {
-            for (Change change : patch.changes) {
-                if (change.kind == 2) {
-                    List<Line> chain = new ArrayList<>();
-                    chain.add(change.up);
-                    chain.addAll(change.lines);
-                    chain.add(change.down);
-                    for (int i = 0; i + 1 < chain.size(); i++) {
-                        if (chain.get(i) == line && chain.get(i + 1) != null) {
-                            next.add(chain.get(i + 1));
-                        }
-                    }
-                } else if (change.kind == 4 && change.one == line) {
-                    next.add(change.two);
+    /** The LINES to which the edges of the GRAPHS of a SET lead from each LINE. */
+    private static Map<Line, List<Line>> edges(Set<Patch> set) {
+        Map<Line, List<Line>> edges = new HashMap<>();
+        for (Change change : changes(set)) {
+            if (change.kind == 2) {
+                Line last = change.up;
+                for (Line line : change.lines) {
+                    addEdge(edges, last, line);
+                    last = line;
                 }
+                addEdge(edges, last, change.down);
+            } else if (change.kind == 4) {
+                addEdge(edges, change.one, change.two);
             }
         }
-        return next;
+        return edges;
+    }
+
+    /** TOP and none are null: nothing leads to the one, nothing from the other. */
+    private static void addEdge(Map<Line, List<Line>> edges, Line from, Line to) {
+        if (from != null && to != null) {
+            edges.computeIfAbsent(from, line -> new ArrayList<>()).add(to);
+        }
     }
 
     /** Fills in the TEXT and answers UNSURE. */
@@ -482,22 +499,31 @@ final class Model {
         }));
         List<Line> left = lines(set, file);
         left.removeAll(dead);
-        java.util.Map<Line, Set<Line>> behind = new java.util.HashMap<>();
-        left.forEach(l -> behind.put(l, behind(set, l)));
+        Map<Line, Set<Line>> awaited = awaited(edges(set), left);
         int unsure = 0;
         while (!left.isEmpty()) {
-            List<Line> free = new ArrayList<>();
-            for (Line line : left) {
-                if (left.stream().noneMatch(o -> behind.get(o).contains(line) && !behind.get(line).contains(o))) {
-                    free.add(line);
-                }
-            }
+            List<Line> free = new ArrayList<>(left);
+            free.removeIf(line -> !awaited.get(line).isEmpty());
             unsure += free.size() > 1 ? 1 : 0;
             Line least = Collections.min(free, LINE_BY_KEY);
             text.add(least);
             left.remove(least);
+            awaited.values().forEach(lines -> lines.remove(least));
         }
         return unsure;
+    }
+
+    /** Of each of these LINES those of them that are before it and not also behind it. */
+    private static Map<Line, Set<Line>> awaited(Map<Line, List<Line>> edges, List<Line> lines) {
+        Map<Line, Set<Line>> behind = new HashMap<>();
+        lines.forEach(line -> behind.put(line, behind(edges, line)));
+        Map<Line, Set<Line>> awaited = new HashMap<>();
+        for (Line line : lines) {
+            Set<Line> before = new HashSet<>(lines);
+            before.removeIf(other -> !behind.get(other).contains(line) || behind.get(line).contains(other));
+            awaited.put(line, before);
+        }
+        return awaited;
     }
 
     private static boolean isStranded(Set<Patch> set, Line line) {
@@ -560,6 +586,7 @@ final class Model {
 
     private byte[] write(Set<Patch> set, Change file, List<Line> deleted, List<Object> result) {
         TreeSet<Patch> named = new TreeSet<>(BY_HASH);
+        Map<Line, List<Line>> edges = edges(set);
         // The first time finds who is named, the second one has the numbers right.
         PatchBytes out = null;
         int changes = 0;
@@ -589,7 +616,7 @@ final class Model {
             }
             for (int at = 0; at + 1 < result.size(); at++) {
                 if (result.get(at) instanceof Line one && result.get(at + 1) instanceof Line two
-                        && !behind(set, one).contains(two)) {
+                        && !behind(edges, one).contains(two)) {
                     out.order(ref(named, dependencies, one), ref(named, dependencies, two));
                     changes++;
                 }

@@ -8,18 +8,16 @@ import java.util.Set;
 public final class ModelTest {
     private static final String[] NAMES = {"f", "g", "read.me", "~", "f"};
     private static final String[] LINES = {"a\n", "b\n", "c\n", "\n", "a", "dd\n"};
-    private static final int CALLS = 512;
     private static final int REPOSITORIES = 3;
 
     private final Random random;
-    private final long seed;
-    private final PatchStore store = new PatchStore();
-    private final Model model = new Model();
-    private int calls = 0;
+    private final Twin twin;
+    private final Model model;
 
     private ModelTest(long seed) {
-        this.seed = seed;
-        this.random = new Random(seed);
+        random = new Random(seed);
+        twin = new Twin("run " + seed);
+        model = twin.model;
     }
 
     public static void main(String[] args) {
@@ -31,14 +29,14 @@ public final class ModelTest {
     }
 
     private void run() {
-        lay(Use.bytes("f"));
-        ask("add", 0, 0);
-        lay(Use.bytes("a\nb\nc\n"));
-        ask("record", 0, 0);
+        twin.lay(Use.bytes("f"));
+        twin.ask("add", 0, 0);
+        twin.lay(Use.bytes("a\nb\nc\n"));
+        twin.ask("record", 0, 0);
         for (int repository = 1; repository < REPOSITORIES; repository++) {
-            ask("pull", repository, 0, -1);
+            twin.ask("pull", repository, 0, -1);
         }
-        for (int turn = 0; turn < 500 && calls < CALLS; turn++) {
+        for (int turn = 0; turn < 500 && !twin.isUsedUp(); turn++) {
             act(random.nextInt(100));
             if (random.nextInt(6) == 0) {
                 look(random.nextInt(REPOSITORIES));
@@ -49,19 +47,19 @@ public final class ModelTest {
     private void act(int which) {
         int repository = random.nextInt(30) == 0 ? random.nextInt(11) - 2 : random.nextInt(REPOSITORIES);
         if (which < 3) {
-            lay(Use.bytes(name()));
-            ask("add", repository, random.nextInt(3));
+            twin.lay(Use.bytes(name()));
+            twin.ask("add", repository, random.nextInt(3));
         } else if (which < 40) {
             int k = fileNumber(repository);
             layEdited(repository, k);
-            ask("record", repository, k);
+            twin.ask("record", repository, k);
         } else if (which < 46) {
-            lay(Use.bytes(random.nextInt(20) == 0 ? "" : name()));
-            ask("call", repository, fileNumber(repository));
+            twin.lay(Use.bytes(random.nextInt(20) == 0 ? "" : name()));
+            twin.ask("call", repository, fileNumber(repository));
         } else if (which < 56) {
-            ask("pull", repository, random.nextInt(REPOSITORIES), random.nextInt(2) == 0 ? -1 : patchNumber());
+            twin.ask("pull", repository, random.nextInt(REPOSITORIES), random.nextInt(2) == 0 ? -1 : patchNumber());
         } else if (which < 66) {
-            ask("drop", repository, patchNumber());
+            twin.ask("drop", repository, patchNumber());
         } else if (which < 96) {
             readSomething(repository);
         } else {
@@ -74,8 +72,12 @@ public final class ModelTest {
     }
 
     private int fileNumber(int repository) {
-        int files = repository < 0 || repository > 7 ? 1 : Model.filesThere(model.sets.get(repository)).size();
+        int files = repository < 0 || repository > 7 ? 1 : files(repository);
         return random.nextInt(25) == 0 ? random.nextInt(4) - 1 : random.nextInt(Math.max(files, 1));
+    }
+
+    private int files(int repository) {
+        return Model.filesThere(model.sets.get(repository)).size();
     }
 
     private String name() {
@@ -88,15 +90,8 @@ public final class ModelTest {
 
     private void layEdited(int repository, int k) {
         List<String> lines = new ArrayList<>();
-        if (repository >= 0 && repository < 8) {
-            int total = store.about(repository, 1) > k && k >= 0 ? store.file(repository, k, 0) : 0;
-            for (int j = 0; j < total; j++) {
-                StringBuilder line = new StringBuilder();
-                for (int i = 0; i < store.line(repository, k, j, -1); i++) {
-                    line.append((char) store.line(repository, k, j, i));
-                }
-                lines.add(line.toString());
-            }
+        if (repository >= 0 && repository < 8 && k >= 0 && k < files(repository)) {
+            lines.addAll(model.textLines(repository, k));
         }
         int edits = random.nextInt(4);
         for (int i = 0; i < edits; i++) {
@@ -110,37 +105,24 @@ public final class ModelTest {
                 lines.add(at, LINES[random.nextInt(LINES.length)]);
             }
         }
-        lay(Use.bytes(String.join("", lines.subList(0, Math.min(14, lines.size())))));
-    }
-
-    private void lay(byte[] bytes) {
-        ask("end", 0);
-        for (int at = 0; at < bytes.length; at += 20) {
-            int[] words = new int[5];
-            for (int i = 0; i < 20; i++) {
-                int value = at + i < bytes.length ? bytes[at + i] & 255 : 0;
-                words[i / 4] |= value << (24 - 8 * (i % 4));
-            }
-            ask("feed", words);
-        }
-        ask("end", bytes.length);
+        twin.lay(Use.bytes(String.join("", lines.subList(0, Math.min(14, lines.size())))));
     }
 
     private void readSomething(int repository) {
         int kind = random.nextInt(4);
         if (kind == 0 && !model.stock.isEmpty()) {
-            ask("show", patchNumber());
+            twin.ask("show", patchNumber());
         } else if (kind == 1 && !model.stock.isEmpty()) {
             byte[] bytes = model.stock.get(random.nextInt(model.stock.size())).bytes.clone();
             bytes[random.nextInt(bytes.length)] += (byte) (random.nextBoolean() ? 1 : random.nextInt(256));
-            lay(random.nextInt(4) == 0 ? Arrays.copyOf(bytes, random.nextInt(bytes.length + 3)) : bytes);
+            twin.lay(random.nextInt(4) == 0 ? Arrays.copyOf(bytes, random.nextInt(bytes.length + 3)) : bytes);
         } else {
-            lay(patch(repository < 0 || repository > 7 ? 0 : repository));
+            twin.lay(patch(repository < 0 || repository > 7 ? 0 : repository));
         }
-        ask("read", repository);
-        ask("fault");
+        twin.ask("read", repository);
+        twin.ask("fault");
         if (random.nextInt(3) == 0) {
-            ask("count", 0);
+            twin.ask("count", 0);
         }
     }
 
@@ -266,115 +248,60 @@ public final class ModelTest {
         int far = random.nextInt(40) - 5;
         switch (random.nextInt(9)) {
             case 0:
-                ask("has", a, patchNumber(), random.nextInt(5) - 1);
+                twin.ask("has", a, patchNumber(), random.nextInt(5) - 1);
                 break;
             case 1:
-                ask("hash", patchNumber(), far);
+                twin.ask("hash", patchNumber(), far);
                 break;
             case 2:
-                ask("state", a, far);
+                twin.ask("state", a, far);
                 break;
             case 3:
-                ask("about", a, random.nextInt(6) - 1);
+                twin.ask("about", a, random.nextInt(6) - 1);
                 break;
             case 4:
-                ask("file", a, b, c);
+                twin.ask("file", a, b, c);
                 break;
             case 5:
-                ask("name", a, b, random.nextInt(4) - 1, random.nextInt(5) - 2);
+                twin.ask("name", a, b, random.nextInt(4) - 1, random.nextInt(5) - 2);
                 break;
             case 6:
-                ask("line", a, b, c, random.nextInt(8) - 5);
+                twin.ask("line", a, b, c, random.nextInt(8) - 5);
                 break;
             case 7:
-                ask("count", random.nextInt(7) - 1);
+                twin.ask("count", random.nextInt(7) - 1);
                 break;
             default:
-                ask("end", far);
+                twin.ask("end", far);
         }
     }
 
     /** All that can be seen of a REPOSITORY. */
     private void look(int repository) {
         for (int what = 0; what < 4; what++) {
-            ask("about", repository, what);
-            ask("count", what + 1);
+            twin.ask("about", repository, what);
+            twin.ask("count", what + 1);
         }
-        ask("state", repository, 0);
-        ask("state", repository, 31);
+        twin.ask("state", repository, 0);
+        twin.ask("state", repository, 31);
         int p = patchNumber();
         for (int what = 0; what < 3; what++) {
-            ask("has", repository, p, what);
+            twin.ask("has", repository, p, what);
         }
-        int files = store.about(repository, 1);
+        int files = files(repository);
         int k = random.nextInt(8) == 0 ? files : random.nextInt(Math.max(files, 1));
         for (int what = 0; what < 7; what++) {
-            ask("file", repository, k, what);
+            twin.ask("file", repository, k, what);
         }
         for (int j = 0; j < 2; j++) {
-            ask("name", repository, k, j, random.nextInt(2) - 1);
+            twin.ask("name", repository, k, j, random.nextInt(2) - 1);
         }
-        int lines = k < files ? store.file(repository, k, 0) : 0;
+        int lines = k < files ? model.file(repository, k, 0) : 0;
         for (int j = 0; j <= lines; j++) {
             for (int i = -4; i < -1; i++) {
-                ask("line", repository, k, j, i);
+                twin.ask("line", repository, k, j, i);
             }
         }
-        ask("line", repository, k, random.nextInt(lines + 1), random.nextInt(7) - 5);
-    }
-
-    private void ask(String call, int... args) {
-        calls++;
-        String got = Check.answer(() -> ofStore(call, args));
-        String want = Check.answer(() -> ofModel(call, args));
-        Check.due("run " + seed + ", call " + calls + ": " + call + Arrays.toString(args), got, want);
-    }
-
-    private int ofStore(String call, int[] a) {
-        switch (call) {
-            case "feed": return store.feed(a[0], a[1], a[2], a[3], a[4]);
-            case "end": return store.end(a[0]);
-            case "add": return store.add(a[0], a[1]);
-            case "call": return store.call(a[0], a[1]);
-            case "record": return store.record(a[0], a[1]);
-            case "read": return store.read(a[0]);
-            case "fault": return store.fault();
-            case "show": return store.show(a[0]);
-            case "pull": return store.pull(a[0], a[1], a[2]);
-            case "drop": return store.drop(a[0], a[1]);
-            case "has": return store.has(a[0], a[1], a[2]);
-            case "hash": return store.hash(a[0], a[1]);
-            case "state": return store.state(a[0], a[1]);
-            case "about": return store.about(a[0], a[1]);
-            case "file": return store.file(a[0], a[1], a[2]);
-            case "name": return store.name(a[0], a[1], a[2], a[3]);
-            case "line": return store.line(a[0], a[1], a[2], a[3]);
-            case "count": return store.count(a[0]);
-            default: throw new AssertionError(call);
-        }
-    }
-
-    private int ofModel(String call, int[] a) {
-        switch (call) {
-            case "feed": return model.feed(a);
-            case "end": return model.end(a[0]);
-            case "add": return model.add(a[0], a[1]);
-            case "call": return model.call(a[0], a[1]);
-            case "record": return model.record(a[0], a[1]);
-            case "read": return model.read(a[0]);
-            case "fault": return model.fault();
-            case "show": return model.show(a[0]);
-            case "pull": return model.pull(a[0], a[1], a[2]);
-            case "drop": return model.drop(a[0], a[1]);
-            case "has": return model.has(a[0], a[1], a[2]);
-            case "hash": return model.hash(a[0], a[1]);
-            case "state": return model.state(a[0], a[1]);
-            case "about": return model.about(a[0], a[1]);
-            case "file": return model.file(a[0], a[1], a[2]);
-            case "name": return model.name(a[0], a[1], a[2], a[3]);
-            case "line": return model.line(a[0], a[1], a[2], a[3]);
-            case "count": return model.count(a[0]);
-            default: throw new AssertionError(call);
-        }
+        twin.ask("line", repository, k, random.nextInt(lines + 1), random.nextInt(7) - 5);
     }
 }
